@@ -40,11 +40,11 @@ public final class MeetTest {
 
     private static void bySortThenName() {
         PayScales office = new PayScales();
-        String text = "plus z=1;plus a=1;gap 1;step 1;scale c:1;scale b:1;grade y from 1;test x A<1=1;";
+        String text = "plus z=1;plus a=1;gap 1;step 1;scale c:1;scale b:1;grade y from 1;test x A<1=1;test a A<1=1;";
         Texts.agree(office, text, 0);
         Texts.agree(office, text, 0);
-        CHECK.due("meet(0, 0)", office.meet(0, 0), 8);
-        int[][] due = {{0, 23}, {1, 24}, {2, 1}, {2, 2}, {3, 0}, {4, 0}, {5, 0}, {5, 25}};
+        CHECK.due("meet(0, 0)", office.meet(0, 0), 9);
+        int[][] due = {{0, 0}, {0, 23}, {1, 24}, {2, 1}, {2, 2}, {3, 0}, {4, 0}, {5, 0}, {5, 25}};
         for (int k = 0; k < due.length; k++) {
             met(office, k, due[k][0], due[k][1], 1, 2);
         }

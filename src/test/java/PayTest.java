@@ -60,6 +60,8 @@ public final class PayTest {
         office.note(0, 0, 1, 1);
         look(office, 0, GRADE, -1);
         look(office, 1, GRADE, 2);
+        PayScales first = office("grade b from 0;grade a from 0;");
+        look(first, 0, GRADE, 0);
         PayScales lowest = office("grade y from 0;");
         look(lowest, 0, GRADE, 24);
         look(lowest, 0, STEP, -1);
@@ -269,6 +271,10 @@ public final class PayTest {
         look(office, 1, GIVEN, 5000);
         office.note(0, 8, 1, 1);
         look(office, 1, GIVEN, 9000);
+        PayScales unpaid = office("gap 1;");
+        unpaid.note(0, 6, 0, 1);
+        unpaid.note(0, 8, 0, 1);
+        look(unpaid, 0, GIVEN, 0);
     }
 
     private static void payByParts() {

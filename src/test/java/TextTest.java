@@ -111,6 +111,8 @@ public final class TextTest {
         wrong("step a 1;", 1, 5);
         wrong("test A A<1=1;", 1, 5);
         wrong("test ab A<1=1;", 1, 5);
+        wrong("test aZ A<1=1;", 1, 5);
+        wrong("test za A<1=1;", 1, 5);
         wrong("test a a<1=1;", 1, 7);
         wrong("test a G<1=1;", 1, 7);
         wrong("test a AB<1=1;", 1, 7);
