@@ -7,6 +7,9 @@ public final class ModelTest {
         "F", "G", "<", ">", "=", ":", ",", ";", "%", "0", "7", "999", "1000", "9999", "10000", "00012", "Test", "ab", "#", "\t",
         "\u00e4", "\u0000", "\u0001", "99999999999999999999"};
 
+    /** An office answers 512 calls; behind these there is room for one more text of 100 feeds. */
+    private static final int BUSY_CALLS = 400;
+
     private final Check check;
     private final Random random;
     private final String run;
@@ -25,7 +28,7 @@ public final class ModelTest {
 
     public static void main(String[] args) {
         Check check = new Check("ModelTest");
-        int runs = args.length > 0 ? Integer.parseInt(args[0]) : 400;
+        int runs = args.length > 0 ? Integer.parseInt(args[0]) : 500;
         for (int seed = 1; seed <= runs && !check.failed(); seed++) {
             new ModelTest(check, seed).randomRun();
             new ModelTest(check, seed).randomTexts();
@@ -35,7 +38,7 @@ public final class ModelTest {
 
     private void randomRun() {
         tellFirst();
-        while (calls < 500 && !check.failed()) {
+        while (calls < BUSY_CALLS && !check.failed()) {
             randomCall();
         }
     }
@@ -158,7 +161,7 @@ public final class ModelTest {
     }
 
     private void randomTexts() {
-        while (calls < 500 && model.count(1) < 12 && !check.failed()) {
+        while (calls < BUSY_CALLS && model.count(1) < 12 && !check.failed()) {
             StringBuilder text = new StringBuilder(oneIn(3) ? "" : text());
             for (int i = below(4); i > 0; i--) {
                 int at = below(text.length() + 1);

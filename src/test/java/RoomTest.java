@@ -10,7 +10,9 @@ public final class RoomTest {
     }
 
     public static void main(String[] args) {
-        ask(fullOffice());
+        for (int i = 0; i < 3; i++) {
+            ask(fullOffice());
+        }
         PayScales office = fullOffice();
         long before = THREADS.getCurrentThreadAllocatedBytes();
         ask(office);
@@ -40,7 +42,7 @@ public final class RoomTest {
     }
 
     private static void ask(PayScales office) {
-        for (int i = 0; i < 60; i++) {
+        for (int i = 0; i < 26; i++) {
             office.look(i % 8, 1199, 1199, i % 16);
             office.pay(i % 8, 1199, 1199);
             office.due(i % 8, 39, 1199);

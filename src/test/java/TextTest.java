@@ -92,7 +92,7 @@ public final class TextTest {
         fine("end test a;end grade a;end scale a;end plus a;", 4);
         fine("test a A<1=1;grade a from 1;scale a:1;step 1;gap 1;plus a=1;", 6);
         fine("step 0000000000000000000000000000009999;", 1);
-        fine(lines(40), 40);
+        fine(Texts.lines(40), 40);
     }
 
     private static void tokensThatCannotStandThere() {
@@ -177,7 +177,7 @@ public final class TextTest {
         wrong("plus a=1000%;", 2, 11);
         wrong("plus a=1000 % ;", 2, 12);
         wrong("plus a A>10000=1;", 2, 9);
-        String forty = lines(40);
+        String forty = Texts.lines(40);
         wrong(forty + " gap 1;", 2, forty.length() + 1);
         wrong(forty + "gap 1 that is wrong within", 2, forty.length());
         wrong(forty + "test a A<1=1;", 2, forty.length());
@@ -208,29 +208,11 @@ public final class TextTest {
         fine("test a A<1=1;grade a from 1;scale a:1;plus a=1;test b A<1=1;", 5);
     }
 
-    /** So many lines of different keys. */
-    private static String lines(int count) {
-        StringBuilder text = new StringBuilder();
-        for (int i = 0; i < count; i++) {
-            text.append(i < 26 ? "end test " : "end plus ").append((char) ('a' + i % 26)).append(';');
-        }
-        return text.toString();
-    }
-
     private static void fine(String text, int lines) {
-        PayScales office = new PayScales();
-        CHECK.due("agree of " + text, Texts.agree(office, text, 0), 0);
-        CHECK.due("fault(0) of " + text, office.fault(0), 0);
-        CHECK.due("fault(1) of " + text, office.fault(1), -1);
-        CHECK.due("lines of " + text, office.count(4), lines);
+        Texts.taken(CHECK, text, lines);
     }
 
     private static void wrong(String text, int fault, int place) {
-        PayScales office = new PayScales();
-        CHECK.due("agree of " + text, Texts.agree(office, text, 0), -1);
-        CHECK.due("fault(0) of " + text, office.fault(0), fault);
-        CHECK.due("fault(1) of " + text, office.fault(1), place);
-        CHECK.due("agreements behind " + text, office.count(1), 0);
-        CHECK.due("lines behind " + text, office.count(4), 0);
+        Texts.refused(CHECK, text, fault, place);
     }
 }
