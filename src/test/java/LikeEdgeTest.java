@@ -13,6 +13,7 @@ public final class LikeEdgeTest {
         theGreatestSpan();
         amountsDiffer();
         likeTakesAllThatThereIs();
+        likeAsKnown();
         likeRefuses();
         likeThatIsRefusedLeavesAll();
         pairsOfEightPosts();
@@ -130,6 +131,19 @@ public final class LikeEdgeTest {
         CHECK.due("like(1199, 1199, 0)", office.like(1199, 1199, 0), 1);
     }
 
+    /** Terms 3: "as KNOWN": on the DAY of the telling, and on the one ahead of it. */
+    private static void likeAsKnown() {
+        PayScales office = office("plus a A=1=1;", new int[] {0, 0}, new int[] {0, 0});
+        office.pass(7);
+        office.note(1, 0, 0, 1);
+        office.pass(1);
+        office.note(0, HELD, 0, 0);
+        int[] due = {0, 1, 0};
+        for (int known = 6; known <= 8; known++) {
+            CHECK.due("like known on day " + known, office.like(0, known, 0), due[known - 6]);
+        }
+    }
+
     private static void refuseAll(PayScales office, int today) {
         for (int day : Edges.outside(0, 1199)) {
             CHECK.due("like on day " + day, office.like(day, 0, 0), -1);
@@ -238,16 +252,7 @@ public final class LikeEdgeTest {
         PayScales office = office("plus a A=1=1;", new int[] {0, 0}, new int[] {1, 0}, new int[] {0, 0}, new int[] {1, 0});
         CHECK.due("pair(0, 0) ahead of a like()", office.pair(0, 0), -1);
         CHECK.due("like(0, 0, 0)", office.like(0, 0, 0), 4);
-        for (int k : Edges.outside(0, 3)) {
-            for (int what = 0; what < 4; what++) {
-                CHECK.due("pair(" + k + ", " + what + ")", office.pair(k, what), -1);
-            }
-        }
-        for (int k = 0; k < 4; k++) {
-            for (int what : Edges.outside(0, 3)) {
-                CHECK.due("pair(" + k + ", " + what + ")", office.pair(k, what), -1);
-            }
-        }
+        Edges.onlyCells(CHECK, "pair", 4, 4, office::pair);
     }
 
     /** Promise 16: "of the latest like()": fewer than the one ahead had. */

@@ -186,16 +186,7 @@ public final class MeetEdgeTest {
         PayScales office = office(new Object[] {0, text}, new Object[] {0, text});
         CHECK.due("met(0, 0) ahead of a meet()", office.met(0, 0), -1);
         CHECK.due("meet(0, 0)", office.meet(0, 0), 3);
-        for (int k : Edges.outside(0, 2)) {
-            for (int what = 0; what < 4; what++) {
-                CHECK.due("met(" + k + ", " + what + ")", office.met(k, what), -1);
-            }
-        }
-        for (int k = 0; k < 3; k++) {
-            for (int what : Edges.outside(0, 3)) {
-                CHECK.due("met(" + k + ", " + what + ")", office.met(k, what), -1);
-            }
-        }
+        Edges.onlyCells(CHECK, "met", 3, 4, office::met);
     }
 
     /** Promise 18: "of the latest meet()": fewer than the one ahead had. */

@@ -32,6 +32,7 @@ public final class PayEdgeTest {
         payByEveryPart();
         theGreatestPay();
         payTakesAllThatThereIs();
+        payAndDueAsKnown();
         payRefuses();
         aMonthHasThirtyDays();
         dueIsTheSumOfItsDays();
@@ -322,19 +323,9 @@ public final class PayEdgeTest {
         CHECK.due("pay of the day ahead", office.pay(0, 1198, 0), 840 * given);
     }
 
-    private static PayScales eightPosts() {
-        PayScales office = new PayScales();
-        Texts.agree(office, "plus a=10;", 0);
-        for (int post = 0; post < 8; post++) {
-            office.post(post);
-            office.note(post, HELD, 0, 1);
-        }
-        return office;
-    }
-
     /** Promise 9: the first and the last POST and DAY, KNOWN up to TODAY. */
     private static void payTakesAllThatThereIs() {
-        PayScales office = eightPosts();
+        PayScales office = Offices.ofPosts(8);
         office.pass(1199);
         for (int post : new int[] {0, 7}) {
             CHECK.due("pay of day 0, known on 0", office.pay(post, 0, 0), DAY);
@@ -344,9 +335,26 @@ public final class PayEdgeTest {
         }
     }
 
+    /** Terms 3: "as KNOWN": on the DAY of the telling, and on the one ahead of it. */
+    private static void payAndDueAsKnown() {
+        PayScales office = Offices.ofPosts(1);
+        office.pass(40);
+        office.note(0, HELD, 29, 0);
+        Texts.agree(office, "plus a=20;", 28);
+        office.pass(1);
+        for (int known = 39; known <= 41; known++) {
+            boolean told = known >= 40;
+            CHECK.due("pay of day 28, known on " + known, office.pay(0, 28, known), told ? 2 * DAY : DAY);
+            CHECK.due("pay of day 29, known on " + known, office.pay(0, 29, known), told ? 0 : DAY);
+            CHECK.due("due of month 0, known on " + known, office.due(0, 0, known), 30 * DAY);
+            CHECK.due("due of month 1, known on " + known, office.due(0, 1, known), told ? 0 : 30 * DAY);
+            CHECK.due("cost of both, known on " + known, office.cost(0, 1, known), told ? 30 * DAY : 60 * DAY);
+        }
+    }
+
     /** Promise 9: "NONE likewise". */
     private static void payRefuses() {
-        PayScales office = eightPosts();
+        PayScales office = Offices.ofPosts(8);
         office.pass(9);
         for (int post : Edges.outside(0, 7)) {
             CHECK.due("pay of post " + post, office.pay(post, 0, 0), -1);
@@ -433,7 +441,7 @@ public final class PayEdgeTest {
 
     /** Promise 10: "NONE: no such POST, MONTH, KNOWN". */
     private static void dueRefuses() {
-        PayScales office = eightPosts();
+        PayScales office = Offices.ofPosts(8);
         office.pass(9);
         for (int post : Edges.outside(0, 7)) {
             CHECK.due("due of post " + post, office.due(post, 0, 0), -1);
@@ -474,7 +482,7 @@ public final class PayEdgeTest {
 
     /** Promise 14: "all POSTS'", where there are eight, as KNOWN. */
     private static void costOfAllPosts() {
-        PayScales office = eightPosts();
+        PayScales office = Offices.ofPosts(8);
         CHECK.due("cost(0, 0, 0)", office.cost(0, 0, 0), 8 * 30 * DAY);
         CHECK.due("cost(39, 39, 0)", office.cost(39, 39, 0), 8 * 30 * DAY);
         CHECK.due("cost(0, 39, 0)", office.cost(0, 39, 0), 8 * 1200 * DAY);
@@ -487,7 +495,7 @@ public final class PayEdgeTest {
 
     /** Promise 14: "NONE: no such MONTHS, KNOWN, or b is below a". */
     private static void costRefuses() {
-        PayScales office = eightPosts();
+        PayScales office = Offices.ofPosts(8);
         office.pass(9);
         for (int month : Edges.outside(0, 39)) {
             CHECK.due("cost(" + month + ", 39, 0)", office.cost(month, 39, 0), -1);

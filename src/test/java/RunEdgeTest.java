@@ -30,21 +30,8 @@ public final class RunEdgeTest {
         CHECK.end();
     }
 
-    /** Posts that are held from day 0 on, at 10 each. */
-    private static PayScales office(int posts) {
-        PayScales office = new PayScales();
-        Texts.agree(office, "plus a=10;", 0);
-        for (int post = 0; post < posts; post++) {
-            office.post(post);
-            office.note(post, HELD, 0, 1);
-        }
-        return office;
-    }
-
     private static void payment(PayScales office, int k, long post, long month, long sum) {
-        CHECK.due("payment(" + k + ", 0)", office.payment(k, 0), post);
-        CHECK.due("payment(" + k + ", 1)", office.payment(k, 1), month);
-        CHECK.due("payment(" + k + ", 2)", office.payment(k, 2), sum);
+        Offices.payment(CHECK, office, k, post, month, sum);
     }
 
     /** Promise 11: "How many PAYMENTS there are": none without POSTS, nor without a MONTH that has ended. */
@@ -52,14 +39,14 @@ public final class RunEdgeTest {
         PayScales none = new PayScales();
         none.pass(1199);
         CHECK.due("run() without posts", none.run(), 0);
-        CHECK.due("run() on day 0", office(8).run(), 0);
+        CHECK.due("run() on day 0", Offices.ofPosts(8).run(), 0);
         CHECK.due("count(6)", none.count(6), 1);
     }
 
     /** Terms 3: "each MONTH that has ended (all of its DAYS ahead of TODAY)". */
     private static void aMonthHasEndedBehindItsLastDay() {
         for (int month : new int[] {0, 1, 20, 38}) {
-            PayScales office = office(1);
+            PayScales office = Offices.ofPosts(1);
             office.pass(30 * month + 29);
             CHECK.due("run() on the last day of month " + month, office.run(), month);
             CHECK.due("paid(0, " + month + ")", office.paid(0, month), 0);
@@ -73,7 +60,7 @@ public final class RunEdgeTest {
 
     /** Terms 3: "ahead of TODAY": MONTH 39 has the last DAY, which is never ahead of TODAY. */
     private static void theLastMonthNeverEnds() {
-        PayScales office = office(1);
+        PayScales office = Offices.ofPosts(1);
         office.pass(1199);
         CHECK.due("run() on day 1199", office.run(), 39);
         payment(office, 38, 0, 38, MONTH);
@@ -85,7 +72,7 @@ public final class RunEdgeTest {
 
     /** Terms 3: "what its DUE .. is more .. than what was PAID for it". */
     private static void aMonthIsPaidOnce() {
-        PayScales office = office(1);
+        PayScales office = Offices.ofPosts(1);
         office.pass(30);
         CHECK.due("run()", office.run(), 1);
         CHECK.due("run() again", office.run(), 0);
@@ -122,7 +109,7 @@ public final class RunEdgeTest {
 
     /** Terms 3: "more (or less)". */
     private static void lessThanWasPaid() {
-        PayScales office = office(1);
+        PayScales office = Offices.ofPosts(1);
         office.pass(60);
         office.run();
         office.note(0, HELD, 59, 0);
@@ -143,7 +130,7 @@ public final class RunEdgeTest {
 
     /** Terms 3: "its DUE, as KNOWN TODAY". */
     private static void asKnownToday() {
-        PayScales office = office(1);
+        PayScales office = Offices.ofPosts(1);
         office.pass(59);
         Texts.agree(office, "plus a=20;", 0);
         CHECK.due("run() on the day of the telling", office.run(), 1);
@@ -156,7 +143,7 @@ public final class RunEdgeTest {
 
     /** Terms 3: "for each POST, each MONTH that has ended": of a POST that came behind them, too. */
     private static void aPostThatComesLate() {
-        PayScales office = office(1);
+        PayScales office = Offices.ofPosts(1);
         office.pass(65);
         office.run();
         office.post(0);
@@ -170,7 +157,7 @@ public final class RunEdgeTest {
 
     /** Promise 11: "How many PAYMENTS there are": the most. */
     private static void theMostPayments() {
-        PayScales office = office(8);
+        PayScales office = Offices.ofPosts(8);
         office.pass(1199);
         CHECK.due("run()", office.run(), 8 * 39);
         CHECK.due("count(5)", office.count(5), 8 * 39);
@@ -203,7 +190,7 @@ public final class RunEdgeTest {
 
     /** Promise 12: "by POSTS, then MONTHS". */
     private static void byPostsThenMonths() {
-        PayScales office = office(3);
+        PayScales office = Offices.ofPosts(3);
         office.note(1, HELD, 0, 0);
         office.note(1, HELD, 30, 1);
         office.pass(60);
@@ -216,7 +203,7 @@ public final class RunEdgeTest {
 
     /** Promise 12: "what 0: the POST, 1: the MONTH, 2: how much", of the first and the last PAYMENT. */
     private static void paymentTakesAllThatThereIs() {
-        PayScales office = office(2);
+        PayScales office = Offices.ofPosts(2);
         office.note(0, HELD, 1, 0);
         office.pass(60);
         CHECK.due("run()", office.run(), 3);
@@ -226,26 +213,17 @@ public final class RunEdgeTest {
 
     /** Promise 12: "NONE: none such": no other k, and no other what that a neighbour's row could answer. */
     private static void paymentRefuses() {
-        PayScales office = office(2);
+        PayScales office = Offices.ofPosts(2);
         CHECK.due("payment(0, 0) ahead of a run()", office.payment(0, 0), -1);
         office.pass(60);
         CHECK.due("payment(0, 0) still ahead of a run()", office.payment(0, 0), -1);
         CHECK.due("run()", office.run(), 4);
-        for (int k : Edges.outside(0, 3)) {
-            for (int what = 0; what < 3; what++) {
-                CHECK.due("payment(" + k + ", " + what + ")", office.payment(k, what), -1);
-            }
-        }
-        for (int k = 0; k < 4; k++) {
-            for (int what : Edges.outside(0, 2)) {
-                CHECK.due("payment(" + k + ", " + what + ")", office.payment(k, what), -1);
-            }
-        }
+        Edges.onlyCells(CHECK, "payment", 4, 3, office::payment);
     }
 
     /** Promise 12: "of the latest run()": fewer than the one ahead had. */
     private static void paymentsOfTheLatestRun() {
-        PayScales office = office(1);
+        PayScales office = Offices.ofPosts(1);
         office.pass(90);
         CHECK.due("run()", office.run(), 3);
         office.note(0, HELD, 89, 0);
@@ -260,7 +238,7 @@ public final class RunEdgeTest {
 
     /** Promises 12 and 13: what is told and asked behind a run() changes neither. */
     private static void paymentsAsTheyWereThen() {
-        PayScales office = office(1);
+        PayScales office = Offices.ofPosts(1);
         office.pass(30);
         office.run();
         office.note(0, HELD, 0, 0);
@@ -275,7 +253,7 @@ public final class RunEdgeTest {
 
     /** Promise 13: "What was PAID for a MONTH": 0 at first, of the first and the last. */
     private static void paidOfEachMonth() {
-        PayScales office = office(8);
+        PayScales office = Offices.ofPosts(8);
         for (int post : new int[] {0, 7}) {
             CHECK.due("paid(" + post + ", 0)", office.paid(post, 0), 0);
             CHECK.due("paid(" + post + ", 39)", office.paid(post, 39), 0);
@@ -293,7 +271,7 @@ public final class RunEdgeTest {
 
     /** Promise 13: "NONE: no such POST, MONTH": nor one that a neighbour's row could answer. */
     private static void paidRefuses() {
-        PayScales office = office(2);
+        PayScales office = Offices.ofPosts(2);
         office.pass(1199);
         office.run();
         for (int post : Edges.outside(0, 1)) {
@@ -309,7 +287,7 @@ public final class RunEdgeTest {
 
     /** Promise 19: "5 PAYMENTS of the latest run(), 6 run()s": one without PAYMENTS counts, too. */
     private static void countsOfRuns() {
-        PayScales office = office(1);
+        PayScales office = Offices.ofPosts(1);
         CHECK.due("count(5) ahead of a run()", office.count(5), 0);
         CHECK.due("count(6) ahead of a run()", office.count(6), 0);
         for (int run = 1; run <= 40; run++) {

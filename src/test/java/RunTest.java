@@ -15,24 +15,12 @@ public final class RunTest {
         CHECK.end();
     }
 
-    private static PayScales office(int posts) {
-        PayScales office = new PayScales();
-        Texts.agree(office, "plus a=10;", 0);
-        for (int post = 0; post < posts; post++) {
-            office.post(post);
-            office.note(post, 6, 0, 1);
-        }
-        return office;
-    }
-
     private static void payment(PayScales office, int k, long post, long month, long sum) {
-        CHECK.due("payment(" + k + ", 0)", office.payment(k, 0), post);
-        CHECK.due("payment(" + k + ", 1)", office.payment(k, 1), month);
-        CHECK.due("payment(" + k + ", 2)", office.payment(k, 2), sum);
+        Offices.payment(CHECK, office, k, post, month, sum);
     }
 
     private static void monthsThatHaveEnded() {
-        PayScales office = office(1);
+        PayScales office = Offices.ofPosts(1);
         CHECK.due("run() on day 0", office.run(), 0);
         office.pass(29);
         CHECK.due("run() on the month's last day", office.run(), 0);
@@ -53,7 +41,7 @@ public final class RunTest {
     }
 
     private static void justTheDifferences() {
-        PayScales office = office(1);
+        PayScales office = Offices.ofPosts(1);
         office.pass(90);
         CHECK.due("run()", office.run(), 3);
         office.note(0, 6, 45, 0);
@@ -76,7 +64,7 @@ public final class RunTest {
     }
 
     private static void byPostsThenMonths() {
-        PayScales office = office(3);
+        PayScales office = Offices.ofPosts(3);
         office.note(1, 6, 0, 0);
         office.pass(65);
         CHECK.due("run()", office.run(), 4);
@@ -89,7 +77,7 @@ public final class RunTest {
     }
 
     private static void everyMonthOfEightPosts() {
-        PayScales office = office(8);
+        PayScales office = Offices.ofPosts(8);
         office.pass(1199);
         CHECK.due("run()", office.run(), 8 * 39);
         payment(office, 8 * 39 - 1, 7, 38, MONTH);
@@ -97,7 +85,7 @@ public final class RunTest {
     }
 
     private static void wrongInputs() {
-        PayScales office = office(1);
+        PayScales office = Offices.ofPosts(1);
         office.pass(30);
         office.run();
         int[] odd = {-1, 3, Integer.MIN_VALUE, Integer.MAX_VALUE};

@@ -51,10 +51,7 @@ public final class WorthEdgeTest {
     }
 
     private static PayScales office(String text) {
-        PayScales office = new PayScales();
-        office.post(0);
-        CHECK.due("agree of " + text, Texts.agree(office, text, 0), 0);
-        return office;
+        return Offices.ofText(CHECK, text);
     }
 
     private static void look(PayScales office, int day, int what, long want) {
